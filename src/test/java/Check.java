@@ -1,44 +1,50 @@
-/** Counts the answers that are not as due; used by the tests beside it. */
+import java.util.Map;
+import java.util.TreeMap;
+
+/** Counts the answers that are not as due, and by which sentence of the document they are due. */
 final class Check {
+    private final Map<String, Integer> looks = new TreeMap<>();
+    private String sentence = "";
     private int wrong;
 
+    /** From now on all looks are looks at this sentence. */
+    void sentence(String text) {
+        sentence = text;
+        looks.putIfAbsent(text, 0);
+    }
+
+    /** How many looks each sentence had. */
+    Map<String, Integer> looks() {
+        return looks;
+    }
+
     void same(String call, long got, long due) {
-        if (got != due) {
+        if (isWrong(got == due)) {
             tell(call + " answered " + got + ", due is " + due);
         }
     }
 
     void same(String call, double got, double due) {
-        if (Double.compare(got, due) != 0) {
+        if (isWrong(Double.compare(got, due) == 0)) {
             tell(call + " answered " + got + ", due is " + due);
         }
     }
 
     void same(String call, Object got, Object due) {
-        if (!got.equals(due)) {
+        if (isWrong(got.equals(due))) {
             tell(call + " answered " + got + ", due is " + due);
         }
     }
 
     void yes(String what, boolean holds) {
-        if (!holds) {
+        if (isWrong(holds)) {
             tell(what + " does not hold");
         }
     }
 
-    /** The call throws just this exception, and changes nothing. */
-    void refused(Bookinghouse x, String call, Class<? extends RuntimeException> due, Runnable made) {
-        long before = x.checksum();
-        Object got = "nothing";
-        try {
-            made.run();
-        } catch (RuntimeException e) {
-            got = e.getClass();
-        }
-        if (got != due) {
-            tell(call + " threw " + got + ", due is " + due);
-        }
-        same("checksum() behind " + call, x.checksum(), before);
+    private boolean isWrong(boolean holds) {
+        looks.computeIfPresent(sentence, (text, many) -> many + 1);
+        return !holds;
     }
 
     void end() {
@@ -51,7 +57,7 @@ final class Check {
     private void tell(String text) {
         wrong++;
         if (wrong <= 40) {
-            System.out.println(text);
+            System.out.println(sentence.isEmpty() ? text : "[" + sentence + "] " + text);
         }
     }
 }
